@@ -1,0 +1,117 @@
+import java.nio.charset.StandardCharsets;
+import java.util.function.BooleanSupplier;
+import java.util.function.LongSupplier;
+
+/** What the tests share: counting wrong answers, and loading a text. */
+final class Checks {
+    /** A number of a fraction, told which one. */
+    interface Part {
+        long get(boolean isBelow);
+    }
+
+    private static int wrong = 0;
+
+    private Checks() {
+    }
+
+    static void same(String call, long got, long due) {
+        if (got != due) {
+            report(call + " answered " + got + ", due is " + due);
+        }
+    }
+
+    static void same(String call, float got, float due) {
+        if (got != due) {
+            report(call + " answered " + got + ", due is " + due);
+        }
+    }
+
+    static void yes(String what, BooleanSupplier condition) {
+        if (!condition.getAsBoolean()) {
+            report(what + " does not hold");
+        }
+    }
+
+    static void fraction(String call, Part part, long above, long below) {
+        same(call + " above", part.get(false), above);
+        same(call + " below", part.get(true), below);
+    }
+
+    static void throwsJust(Class<? extends RuntimeException> due, String call, LongSupplier run) {
+        try {
+            long got = run.getAsLong();
+            report(call + " answered " + got + ", due is " + due.getSimpleName());
+        } catch (RuntimeException e) {
+            if (e.getClass() != due) {
+                report(call + " threw " + e.getClass().getSimpleName() + ", due is " + due.getSimpleName());
+            }
+        }
+    }
+
+    static void noIndex(String call, LongSupplier run) {
+        throwsJust(IndexOutOfBoundsException.class, call, run);
+    }
+
+    static void noArgument(String call, LongSupplier run) {
+        throwsJust(IllegalArgumentException.class, call, run);
+    }
+
+    static void noState(String call, LongSupplier run) {
+        throwsJust(IllegalStateException.class, call, run);
+    }
+
+    static void report(String line) {
+        wrong++;
+        if (wrong <= 50) {
+            System.out.println(line);
+        }
+    }
+
+    static byte[] bytes(String text) {
+        return text.getBytes(StandardCharsets.ISO_8859_1);
+    }
+
+    /** Appends the text, filled up with zeros; false if the buffer did not take all of it. */
+    static boolean append(RandomWalks x, String text) {
+        byte[] bytes = bytes(text);
+        for (int at = 0; at < bytes.length; at += 20) {
+            int[] words = new int[5];
+            for (int k = 0; k < 20; k++) {
+                int b = at + k < bytes.length ? bytes[at + k] & 255 : 0;
+                words[k / 4] = words[k / 4] << 8 | b;
+            }
+            if (x.append(words[0], words[1], words[2], words[3], words[4]) < 0) {
+                return false;
+            }
+        }
+        return true;
+    }
+
+    static int load(RandomWalks x, String text) {
+        if (!append(x, text)) {
+            report("no room for: " + text);
+        }
+        return x.load(text.length());
+    }
+
+    static RandomWalks loaded(String text) {
+        RandomWalks x = new RandomWalks();
+        if (load(x, text) < 0) {
+            report("error at " + x.errorOffset() + " in: " + text);
+        }
+        return x;
+    }
+
+    static void error(String text, int code, int offset) {
+        RandomWalks x = new RandomWalks();
+        same("load of '" + text + "'", load(x, text), code);
+        same("errorOffset of '" + text + "'", x.errorOffset(), offset);
+    }
+
+    static void end(String test) {
+        System.out.println(test + ": " + (wrong == 0 ? "all answers are as due" : wrong + " are not as due"));
+        if (wrong != 0) {
+            System.exit(1);
+        }
+    }
+}
