@@ -19,6 +19,8 @@ final class SetupTextTest {
         promise3FirstError();
         promise3CostValues();
         promise3CostLimits();
+        promise3LongTexts();
+        promise3LoadAfterErrors();
         promise3FailedLoadChangesNothing();
         promise4ErrorOffset();
         promise5Size();
@@ -138,6 +140,12 @@ final class SetupTextTest {
         Checks.error("walks 3;", SYNTAX, 0);
         Checks.error("wal 3;", SYNTAX, 0);
         Checks.error(" Walk 3;", SYNTAX, 1);
+        Checks.error("walkz 3;", SYNTAX, 0);
+        Checks.error("walka 3;", SYNTAX, 0);
+        Checks.error("walk{ 3;", SYNTAX, 4);
+        Checks.error("walk` 3;", SYNTAX, 4);
+        Checks.error("walk 3/;", SYNTAX, 6);
+        Checks.error("walk 3:;", SYNTAX, 6);
         Checks.error("3;", SYNTAX, 0);
         Checks.error("edge 0 1 1;", SYNTAX, 0);
         Checks.error("walk 3;;", SYNTAX, 7);
@@ -255,6 +263,30 @@ final class SetupTextTest {
         RandomWalks x = Checks.loaded("walk 2;edge 0 1 5;cost " + sum + ";");
         Checks.same("cost " + sum, x.edge(0, 3), there);
         Checks.same("cost back " + sum, x.edge(0, 4), back);
+    }
+
+    private static void promise3LongTexts() {
+        String start = "walk2;edge0 1 5;cost";
+        String full = start + "9+" + "1-1+".repeat(144) + "3;";
+        Checks.same("length of the full text", full.length(), 600);
+        Checks.same("a long sum", Checks.loaded(full).edge(0, 3), 12);
+        Checks.same("a long number", Checks.loaded(start + "0".repeat(578) + "7;").edge(0, 4), 7);
+        Checks.error(start + "7".repeat(580), RANGE, 20);
+        Checks.error("walk3;" + "absorb0;join0 1;".repeat(37), DUPLICATE, 28);
+        Checks.same("many statements", Checks.loaded("walk3;" + "join0 1;".repeat(74)).blockCount(), 2);
+    }
+
+    /** What an error has left half read has no effect on the next text. */
+    private static void promise3LoadAfterErrors() {
+        RandomWalks x = new RandomWalks();
+        for (int k = 0; k < 20; k++) {
+            Checks.same("an unfinished sum", Checks.load(x, "walk 3;edge 0 2 1;absorb 1;cost 1-2*(3-4*(5"), SYNTAX);
+        }
+        Checks.same("load", Checks.load(x, "walk 3;edge 0 1 5;absorb 1;cost 9-2*(7-2*(1+1));"), 1);
+        Checks.same("cost", x.edge(0, 3), 3);
+        Checks.same("load", Checks.load(x, "walk 3;edge 0 1 5;"), 1);
+        Checks.same("cost", x.edge(0, 3), 1);
+        Checks.same("absorbing", x.absorbing(), 0);
     }
 
     private static void promise3FailedLoadChangesNothing() {
