@@ -220,7 +220,7 @@ public final class RandomWalks {
         requireBlock(from);
         requireBlock(to);
         requireLumpable();
-        partition.lump(graph);
+        partition.lumpBlocks(graph);
         partition.blockChance(from, to, answer);
         return (int) answer.part(isBelow);
     }
@@ -230,7 +230,7 @@ public final class RandomWalks {
         requireBlock(from);
         requireBlock(to);
         requireLumpable();
-        partition.lump(graph);
+        partition.lumpBlocks(graph);
         if (!partition.lump.hasWay(from, to)) {
             throw new IllegalStateException("the block cannot be reached");
         }
@@ -942,6 +942,7 @@ public final class RandomWalks {
                     wantsFactor = true;
                 } else if (kind == ')' && nested > 0) {
                     release(1);
+                    // What is left on top is the opening parenthesis, as nested tells that there is one.
                     waitingCount--;
                     nested--;
                 } else if (kind == ';' && nested == 0) {
@@ -1171,16 +1172,14 @@ public final class RandomWalks {
          * Makes the graph of the blocks. Where they can be lumped, all vertices of a block have the same
          * transitions, so these are also the sum of their weights divided by the sum of their degrees.
          */
-        void lump(Graph graph) {
+        void lumpBlocks(Graph graph) {
             lump.clear(graph.blocks);
             Arrays.fill(lumpGains, 0);
             for (int v = 0; v < graph.vertices; v++) {
                 int from = graph.block[v];
                 lumpGains[from] += graph.sumOfWeights(v);
-                for (int b = 0; b < graph.blocks; b++) {
-                    if (b > from) {
-                        lump.putWeight(from, b, lump.weightBetween(from, b) + weightTo(graph, v, b));
-                    }
+                for (int b = from + 1; b < graph.blocks; b++) {
+                    lump.putWeight(from, b, lump.weightBetween(from, b) + weightTo(graph, v, b));
                 }
             }
         }
