@@ -9,9 +9,20 @@ final class Checks {
         long get(boolean isBelow);
     }
 
+    /** A call that is told one number. */
+    interface Call {
+        long of(int number);
+    }
+
     private static int wrong = 0;
+    private static String sentence = "";
 
     private Checks() {
+    }
+
+    /** The sentence of the document that the checks from here on are for. */
+    static void sentence(String words) {
+        sentence = words;
     }
 
     static void same(String call, long got, long due) {
@@ -60,10 +71,26 @@ final class Checks {
         throwsJust(IllegalStateException.class, call, run);
     }
 
+    /** The numbers from 0 to below the count exist, and no others. */
+    static void noIndexOutside(String call, int count, Call run) {
+        for (int k : new int[] {-1, count, 31, 32, Integer.MIN_VALUE, Integer.MAX_VALUE}) {
+            noIndex(call + " with " + k, () -> run.of(k));
+        }
+    }
+
+    static void noArgumentOutside(String call, int least, int most, Call run) {
+        for (int k : new int[] {least - 1, most + 1, Integer.MIN_VALUE, Integer.MAX_VALUE}) {
+            // The seed has no number above its range.
+            if (k < least || k > most) {
+                noArgument(call + " with " + k, () -> run.of(k));
+            }
+        }
+    }
+
     static void report(String line) {
         wrong++;
         if (wrong <= 50) {
-            System.out.println(line);
+            System.out.println(sentence.isEmpty() ? line : line + " [" + sentence + "]");
         }
     }
 
@@ -106,6 +133,24 @@ final class Checks {
         RandomWalks x = new RandomWalks();
         same("load of '" + text + "'", load(x, text), code);
         same("errorOffset of '" + text + "'", x.errorOffset(), offset);
+    }
+
+    /** The cost of the steps along an edge of the weight 5 between 0 and 1. */
+    static void cost(String sum, int there, int back) {
+        RandomWalks x = loaded("walk 2;edge 0 1 5;cost " + sum + ";");
+        same("cost " + sum, x.edge(0, 3), there);
+        same("cost back " + sum, x.edge(0, 4), back);
+    }
+
+    /** A text of six vertices and all 15 edges, of one weight. */
+    static String full(int weight) {
+        StringBuilder text = new StringBuilder("walk 6;");
+        for (int a = 0; a < 6; a++) {
+            for (int b = a + 1; b < 6; b++) {
+                text.append("edge ").append(a).append(' ').append(b).append(' ').append(weight).append(';');
+            }
+        }
+        return text.toString();
     }
 
     static void end(String test) {

@@ -1,8 +1,6 @@
 /** Promises 11 to 18: hitting times and costs, commute times, resistances, trees, absorption. */
 final class MeansTest {
     private static final String PATH = "walk 4;edge 0 1 1;edge 1 2 2;cost weight*10+to;";
-    private static final String FULL = "walk 6;edge 0 1 9;edge 0 2 9;edge 0 3 9;edge 0 4 9;edge 0 5 9;edge 1 2 9;"
-            + "edge 1 3 9;edge 1 4 9;edge 1 5 9;edge 2 3 9;edge 2 4 9;edge 2 5 9;edge 3 4 9;edge 3 5 9;edge 4 5 9;";
 
     public static void main(String[] args) {
         promise11HittingTime();
@@ -27,7 +25,7 @@ final class MeansTest {
         Checks.noState("hittingTime(3, 0)", () -> x.hittingTime(3, 0, false));
         Checks.noIndex("hittingTime(0, 4)", () -> x.hittingTime(0, 4, false));
         Checks.noIndex("hittingTime(-1, 0)", () -> x.hittingTime(-1, 0, false));
-        RandomWalks full = Checks.loaded(FULL);
+        RandomWalks full = Checks.loaded(Checks.full(9));
         Checks.fraction("hittingTime(5, 2)", below -> full.hittingTime(5, 2, below), 5, 1);
         RandomWalks triangle = Checks.loaded("walk 3;edge 0 1 1;edge 1 2 2;edge 2 0 3;");
         Checks.fraction("hittingTime(0, 1)", below -> triangle.hittingTime(0, 1, below), 35, 11);
@@ -73,7 +71,7 @@ final class MeansTest {
         RandomWalks two = Checks.loaded("walk 5;edge 0 1 1;edge 1 2 2;edge 2 0 3;edge 3 4 9;");
         Checks.fraction("resistance(0, 1)", below -> two.resistance(0, 1, below), 5, 11);
         Checks.fraction("resistance(4, 3)", below -> two.resistance(4, 3, below), 1, 9);
-        RandomWalks full = Checks.loaded(FULL);
+        RandomWalks full = Checks.loaded(Checks.full(9));
         Checks.fraction("resistance(5, 0)", below -> full.resistance(5, 0, below), 1, 27);
     }
 
@@ -84,7 +82,7 @@ final class MeansTest {
         Checks.same("trees with 0 apart", Checks.loaded("walk 3;edge 1 2 5;").trees(), 0);
         Checks.same("trees of an edge", Checks.loaded("walk 2;edge 0 1 7;").trees(), 7);
         Checks.same("trees of a triangle", Checks.loaded("walk 3;edge 0 1 1;edge 1 2 2;edge 2 0 3;").trees(), 11);
-        Checks.same("trees of all edges", Checks.loaded(FULL).trees(), 76527504);
+        Checks.same("trees of all edges", Checks.loaded(Checks.full(9)).trees(), 76527504);
     }
 
     private static void promise16Absorbing() {

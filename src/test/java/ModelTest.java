@@ -12,6 +12,10 @@ final class ModelTest {
         for (int run = 0; run < RUNS; run++) {
             new ModelTest(run).go();
         }
+        goThroughTexts("walk 2;edge 0 1 5;cost ", 6, "7", "to", "+", "/", "(", ")", ";");
+        goThroughTexts("walk 2;edge 0 1 5;cost ((((", 4, "7", "-", "*", "(", ")", ";");
+        goThroughTexts("", 5, "walk", "2", "1", ";", "edge", "absorb", "join");
+        goThroughTexts("walk 2;", 6, "0", "1", ";", "edge", "absorb", "join");
         Checks.end("ModelTest");
     }
 
@@ -56,6 +60,31 @@ final class ModelTest {
                 ask();
             }
         }
+    }
+
+    /** All texts of up to that many tokens behind a start. */
+    private static void goThroughTexts(String start, int most, String... tokens) {
+        int texts = 1;
+        for (int length = 0; length <= most; length++) {
+            for (int number = 0; number < texts; number++) {
+                StringBuilder text = new StringBuilder(start);
+                int rest = number;
+                for (int k = 0; k < length; k++) {
+                    text.append(' ').append(tokens[rest % tokens.length]);
+                    rest /= tokens.length;
+                }
+                new ModelTest(-1).compareText(text.toString());
+            }
+            texts *= tokens.length;
+        }
+    }
+
+    private void compareText(String text) {
+        compare("append of " + text, () -> Checks.append(x, text) ? 1 : 0, () -> model.append(text) >= 0 ? 1 : 0);
+        compare("load of " + text, () -> x.load(text.length()), () -> model.load(text.length()));
+        compare("errorOffset of " + text, x::errorOffset, model::errorOffset);
+        compare("checksum of " + text, x::checksum, model::checksum);
+        compare("cost of " + text, () -> x.edge(0, 3), () -> model.edge(0, 3));
     }
 
     private void compare(String call, LongSupplier got, LongSupplier due) {

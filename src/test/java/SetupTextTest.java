@@ -230,39 +230,32 @@ final class SetupTextTest {
     }
 
     private static void promise3CostValues() {
-        cost("weight*10+to-from", 51, 49);
-        cost("10-2-3", 5, 5);
-        cost("100/7/2", 7, 7);
-        cost("100/7*2", 28, 28);
-        cost("2+3*4", 14, 14);
-        cost("(2+3)*4", 20, 20);
-        cost("20-(2+3)", 15, 15);
-        cost("9/0+3", 3, 3);
-        cost("9/(from-from)+to", 1, 0);
-        cost("7-9", 0, 0);
-        cost("(3-10)/2+9", 6, 6);
-        cost("99", 99, 99);
-        cost("100", 99, 99);
-        cost("from", 0, 1);
-        cost("to", 1, 0);
-        cost("weight", 5, 5);
+        Checks.cost("weight*10+to-from", 51, 49);
+        Checks.cost("10-2-3", 5, 5);
+        Checks.cost("100/7/2", 7, 7);
+        Checks.cost("100/7*2", 28, 28);
+        Checks.cost("2+3*4", 14, 14);
+        Checks.cost("(2+3)*4", 20, 20);
+        Checks.cost("20-(2+3)", 15, 15);
+        Checks.cost("9/0+3", 3, 3);
+        Checks.cost("9/(from-from)+to", 1, 0);
+        Checks.cost("7-9", 0, 0);
+        Checks.cost("(3-10)/2+9", 6, 6);
+        Checks.cost("99", 99, 99);
+        Checks.cost("100", 99, 99);
+        Checks.cost("from", 0, 1);
+        Checks.cost("to", 1, 0);
+        Checks.cost("weight", 5, 5);
     }
 
     /** The result of each operation is limited to the range -1000000 to 1000000. */
     private static void promise3CostLimits() {
-        cost("9999*9999/9999-90", 10, 10);
-        cost("9999*100+9999-9999*100-90", 10, 10);
-        cost("0-9999*100-9999+9999*100+150", 50, 50);
-        cost("(0-9999)*9999+9999*100+150", 50, 50);
-        cost("9999*9999*9999/9999-90", 10, 10);
-        cost("9999*100+100-9999*100-50", 50, 50);
-    }
-
-    /** The cost of the steps along an edge of the weight 5 between 0 and 1. */
-    private static void cost(String sum, int there, int back) {
-        RandomWalks x = Checks.loaded("walk 2;edge 0 1 5;cost " + sum + ";");
-        Checks.same("cost " + sum, x.edge(0, 3), there);
-        Checks.same("cost back " + sum, x.edge(0, 4), back);
+        Checks.cost("9999*9999/9999-90", 10, 10);
+        Checks.cost("9999*100+9999-9999*100-90", 10, 10);
+        Checks.cost("0-9999*100-9999+9999*100+150", 50, 50);
+        Checks.cost("(0-9999)*9999+9999*100+150", 50, 50);
+        Checks.cost("9999*9999*9999/9999-90", 10, 10);
+        Checks.cost("9999*100+100-9999*100-50", 50, 50);
     }
 
     private static void promise3LongTexts() {
