@@ -50,7 +50,7 @@ final class ChangesBoundsTest {
     }
 
     private static void setWeightRefuses() {
-        Checks.sentence("weight: 1 to 9");
+        Checks.sentence("`weight`: 1 to 9");
         RandomWalks x = Checks.loaded(TEXT);
         Checks.noIndexOutside("setWeight", 3, e -> x.setWeight(e, 5));
         Checks.noIndexOutside("setWeight to 0", 3, e -> x.setWeight(e, 0));

@@ -1,4 +1,7 @@
+import java.io.IOException;
 import java.nio.charset.StandardCharsets;
+import java.nio.file.Files;
+import java.nio.file.Path;
 import java.util.function.BooleanSupplier;
 import java.util.function.LongSupplier;
 
@@ -14,8 +17,11 @@ final class Checks {
         long of(int number);
     }
 
+    private static final Path DOCUMENT = Path.of("../shared/DOC.md");
+
     private static int wrong = 0;
     private static String sentence = "";
+    private static String document = "";
 
     private Checks() {
     }
@@ -23,6 +29,26 @@ final class Checks {
     /** The sentence of the document that the checks from here on are for. */
     static void sentence(String words) {
         sentence = words;
+        if (document.isEmpty()) {
+            document = readDocument();
+        }
+        if (!document.contains(words)) {
+            report("these words do not stand in " + DOCUMENT);
+        }
+    }
+
+    private static String readDocument() {
+        try {
+            return inOneLine(Files.readString(DOCUMENT));
+        } catch (IOException e) {
+            // Without a document no words stand there, which is reported then.
+            return "-";
+        }
+    }
+
+    /** A sentence may go over the end of a line. */
+    private static String inOneLine(String text) {
+        return text.replaceAll("\\s+", " ");
     }
 
     static void same(String call, long got, long due) {

@@ -40,7 +40,7 @@ final class StepsBoundsTest {
     }
 
     private static void stepsAfter() {
-        Checks.sentence("steps: 0 to 100");
+        Checks.sentence("`steps`: 0 to 100");
         RandomWalks x = Checks.loaded("walk 3;edge 0 1 5;");
         for (int steps = 0; steps <= 100; steps++) {
             Checks.same("after(0, 0, " + steps + ")", x.after(0, 0, steps), 1.0f - steps % 2);
@@ -116,7 +116,7 @@ final class StepsBoundsTest {
     }
 
     private static void stepsWalked() {
-        Checks.sentence("steps: 0 to 1000");
+        Checks.sentence("`steps`: 0 to 1000");
         RandomWalks x = Checks.loaded("walk 2;edge 0 1 5;cost 99;");
         Checks.same("a walk of no steps ends", x.walk(1, 0, 7, 0), 1);
         Checks.same("a walk of no steps has been", x.walk(1, 0, 7, 1), 2);
@@ -130,7 +130,7 @@ final class StepsBoundsTest {
     }
 
     private static void seedsOfWalks() {
-        Checks.sentence("seed: the drawing number at the beginning, 0 to 2147483647");
+        Checks.sentence("`seed`: the drawing number at the beginning, 0 to 2147483647");
         RandomWalks x = Checks.loaded(STAR);
         for (int seed : new int[] {0, 1, 2, MOST_SEED / 2, MOST_SEED - 1, MOST_SEED}) {
             Checks.same("the seed " + seed, x.walk(3, 1, seed, 0), drawnFrom3(seed));
